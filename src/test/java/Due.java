@@ -1,0 +1,99 @@
+/** Compares answers with what is due, and knows how many were wrong. */
+final class Due {
+    private final String test;
+    private int asked = 0;
+    private int wrong = 0;
+
+    Due(String test) {
+        this.test = test;
+    }
+
+    void is(String call, long got, long due) {
+        asked++;
+        if (got != due) {
+            wrong++;
+            if (wrong <= 40) {
+                System.out.println(test + ": " + call + " answered " + got + ", due is " + due);
+            }
+        }
+    }
+
+    void is(String call, boolean got, boolean due) {
+        is(call, got ? 1 : 0, due ? 1 : 0);
+    }
+
+    /** Ends the program with exit code 1 if an answer was wrong or none was asked for. */
+    void finish() {
+        System.out.println(test + ": " + asked + " answers, " + wrong + " of them wrong");
+        if (wrong != 0 || asked == 0) {
+            System.exit(1);
+        }
+    }
+
+    /** Puts a text on the tape behind what it has; the last feed's rest is cut off. */
+    static void tape(TurnedWords x, String text) {
+        int had = x.count(14);
+        for (int from = 0; from < text.length(); from += 20) {
+            x.feed(four(text, from), four(text, from + 4), four(text, from + 8),
+                    four(text, from + 12), four(text, from + 16));
+        }
+        x.end(had + text.length());
+    }
+
+    private static int four(String text, int from) {
+        int bytes = 0;
+        for (int i = from; i < from + 4; i++) {
+            bytes = bytes << 8 | (i < text.length() ? text.charAt(i) & 255 : 32);
+        }
+        return bytes;
+    }
+
+    static int words(TurnedWords x, String text) {
+        tape(x, text);
+        return x.words();
+    }
+
+    static int pattern(TurnedWords x, String text) {
+        tape(x, text);
+        return x.pattern();
+    }
+
+    static int comes(TurnedWords x, String word) {
+        tape(x, word);
+        return x.edit(false);
+    }
+
+    static int goes(TurnedWords x, String word) {
+        tape(x, word);
+        return x.edit(true);
+    }
+
+    static TurnedWords with(String text) {
+        TurnedWords x = new TurnedWords();
+        words(x, text);
+        return x;
+    }
+
+    /** A word of the dictionary (of the coming one) as a text, by word() alone. */
+    static String text(TurnedWords x, int word, boolean coming) {
+        StringBuilder text = new StringBuilder();
+        int letters = x.word(word, coming, 0);
+        for (int i = 0; i < letters; i++) {
+            text.append((char) x.word(word, coming, 1 + i));
+        }
+        return text.toString();
+    }
+
+    /** All words, blanks between. */
+    static String all(TurnedWords x, boolean coming) {
+        StringBuilder text = new StringBuilder();
+        for (int w = 0; w < x.count(coming ? 3 : 0); w++) {
+            text.append(w == 0 ? "" : " ").append(text(x, w, coming));
+        }
+        return text.toString();
+    }
+
+    void isText(String call, String got, String due) {
+        is(call + " (" + got + " for " + due + ")", got.equals(due), true);
+    }
+}
