@@ -787,11 +787,13 @@ public final class TurnedWords {
 
     /** Numbers in rising order, no two alike. */
     private static final class Rising {
+        private static final int FIRST_STEP = 256;
+
         private final long[] rows;
         private int size;
 
         Rising(int most) {
-            rows = new long[Math.max(most, 0)];
+            rows = new long[Math.max(0, Math.min(most, MOST_TURNS))];
         }
 
         int size() {
@@ -806,19 +808,16 @@ public final class TurnedWords {
             return hasNumber(number) ? rows[number] : Row.EMPTY;
         }
 
-        /** How many are below it. */
+        /** How many are below it: steps of halving length, the first one more than half of all. */
         int below(long row) {
-            int low = 0;
-            int high = size;
-            while (low < high) {
-                int middle = (low + high) >> 1;
-                if (rows[middle] < row) {
-                    low = middle + 1;
-                } else {
-                    high = middle;
+            int below = 0;
+            for (int step = FIRST_STEP; step > 0; step >>= 1) {
+                int next = below + step;
+                if (next <= size && rows[next - 1] < row) {
+                    below = next;
                 }
             }
-            return low;
+            return below;
         }
 
         private boolean isAt(int place, long row) {
@@ -1037,18 +1036,14 @@ public final class TurnedWords {
             size = 0;
             runs = 0;
             pieces = 0;
+            // without a star both are NONE: then all is behind the last, nothing ahead of the first
             int first = firstStar(pattern);
             int last = lastStar(pattern);
             beginPiece();
-            if (first == NONE) {
-                layPart(pattern, 0, pattern.size());
-                laySign(MARK);
-            } else {
-                layPart(pattern, last + 1, pattern.size());
-                laySign(MARK);
-                layPart(pattern, 0, first);
-                layBetween(pattern, first, last);
-            }
+            layPart(pattern, last + 1, pattern.size());
+            laySign(MARK);
+            layPart(pattern, 0, first);
+            layBetween(pattern, first, last);
         }
 
         private static int firstStar(Pattern pattern) {

@@ -18,6 +18,7 @@ public final class ModelTest {
     private final TurnedWords x = new TurnedWords();
     private final Model y = new Model();
     private int calls = 0;
+    private boolean right = true;
 
     private ModelTest(int seed) {
         this.seed = seed;
@@ -36,7 +37,8 @@ public final class ModelTest {
     }
 
     private boolean isRight() {
-        right = true;
+        tape(text());
+        is("words()", x.words(), y.words());
         while (calls < CALLS && right) {
             if (random.nextInt(5) == 0) {
                 change();
@@ -46,8 +48,6 @@ public final class ModelTest {
         }
         return right;
     }
-
-    private boolean right;
 
     private void is(String call, long got, long want) {
         calls++;
@@ -74,8 +74,8 @@ public final class ModelTest {
     private String text() {
         StringBuilder text = new StringBuilder();
         java.util.TreeSet<String> had = new java.util.TreeSet<>();
-        int rows = random.nextInt(random.nextInt(3) == 0 ? 46 : 16);
-        int strange = random.nextInt(4);
+        int rows = random.nextInt(random.nextBoolean() ? 60 : 16);
+        int strange = random.nextInt(6);
         for (int i = 0; i < rows; i++) {
             String row = row(strange == 1 && random.nextInt(12) == 0 ? 9 : longest);
             if (had.add(row) || strange == 0 && random.nextInt(8) == 0) {
@@ -103,13 +103,15 @@ public final class ModelTest {
         return signs.toString();
     }
 
-    private String inOrOut() {
+    private void edit() {
         int many = x.count(3);
-        calls++;
-        if (many > 0 && random.nextBoolean()) {
-            return Due.text(x, random.nextInt(many), true);
-        }
-        return row(random.nextInt(15) == 0 ? 9 : longest) + (random.nextInt(20) == 0 ? " " : "");
+        boolean off = many > 0 && random.nextInt(5) < 2;
+        String word = row(random.nextInt(15) == 0 ? 9 : longest);
+        tape(off ? Due.text(x, random.nextInt(many), true)
+                : random.nextInt(20) == 0 ? word + " " : word);
+        // now and then the wrong way round
+        boolean asked = off != (random.nextInt(10) == 0);
+        is("edit(" + asked + ")", x.edit(asked), y.edit(asked));
     }
 
     private void feed(String text) {
@@ -130,7 +132,7 @@ public final class ModelTest {
     }
 
     private void change() {
-        int kind = random.nextInt(40);
+        int kind = random.nextInt(43);
         if (kind < 3) {
             tape(text());
             is("words()", x.words(), y.words());
@@ -138,9 +140,9 @@ public final class ModelTest {
             tape(signs());
             is("pattern()", x.pattern(), y.pattern());
         } else if (kind < 26) {
-            tape(inOrOut());
-            boolean off = random.nextBoolean();
-            is("edit(" + off + ")", x.edit(off), y.edit(off));
+            for (int edits = 1 + random.nextInt(4); edits > 0; edits--) {
+                edit();
+            }
         } else if (kind < 31) {
             is("merge()", x.merge(), y.merge());
         } else {
@@ -161,8 +163,24 @@ public final class ModelTest {
         } else if (kind == 37) {
             int n = any(20);
             is("end(" + n + ")", x.end(n), y.end(n));
+        } else if (kind < 40) {
+            tape(random.nextInt(20) == 0 ? text() : row(7));
         } else {
-            feed(random.nextInt(20) == 0 ? text() : row(7));
+            takeTape();
+        }
+    }
+
+    /** Whatever is on it, so that an image's tape is looked at, too. */
+    private void takeTape() {
+        switch (x.count(14) == 0 ? 3 : random.nextInt(4)) {
+            case 0:
+                is("words()", x.words(), y.words());
+                break;
+            case 1:
+                is("pattern()", x.pattern(), y.pattern());
+                break;
+            default:
+                is("edit(false)", x.edit(false), y.edit(false));
         }
     }
 

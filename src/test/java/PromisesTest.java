@@ -30,6 +30,7 @@ public final class PromisesTest {
         word();
         answer();
         turn();
+        fullIndex();
         run();
         longRun();
         of();
@@ -542,6 +543,36 @@ public final class PromisesTest {
         is("14 TURN a$gfedcb", x.turn(1, 1), 6);
     }
 
+    /** Forty words of seven letters: all rooms are full. */
+    private static void fullIndex() {
+        StringBuilder text = new StringBuilder();
+        for (int w = 0; w < 40; w++) {
+            text.append("zzzzz").append((char) ('a' + w / 20)).append((char) ('a' + w % 20));
+            text.append(' ');
+        }
+        TurnedWords x = new TurnedWords();
+        is("14 forty of seven", Due.words(x, text.toString()), 40);
+        is("14 TURNS", x.count(1), 320);
+        is("14 letters", x.count(15), 280);
+        is("14 the last TURN's WORD", x.turn(319, 0), 39);
+        is("14 its k", x.turn(319, 1), 0);
+        is("14 its last SIGN", x.turn(319, 9), 36);
+        is("14 no 321st", x.turn(320, 0), -1);
+        is("18 bt tells it", x.alone(39, 0), 2);
+        is("18 the TURN bt$zzzzz", x.alone(39, 1), 5);
+        is("19 the other one of t and 19 of b", x.near(39, -1), 20);
+        Due.pattern(x, "*zzzz*z*");
+        is("15 RANGE of zzzz", x.run(1, 3), 80);
+        is("15 RANGE of z", x.run(2, 3), 200);
+        is("15 its first TURN", x.run(2, 2), 120);
+        is("16 its last WORD", x.of(2, 39), 39);
+        is("17 shared(39)", x.shared(39), 39);
+        Due.goes(x, "zzzzzaa");
+        Due.comes(x, "a");
+        is("9 of 312 TURNS", x.merge() > 0, true);
+        is("9 TURNS", x.count(1), 314);
+    }
+
     private static void runIs(TurnedWords x, int run, int... due) {
         for (int what = 0; what < due.length; what++) {
             is("15 run(" + run + ", " + what + ")", x.run(run, what), due[what]);
@@ -789,8 +820,10 @@ public final class PromisesTest {
         is("24 the FAULT", x.fault(0), 1);
         is("24 its place", x.fault(1), 2);
         is("24 TURNS", x.turn(8, 1), 2);
-        is("24 edits go on", Due.goes(x, "tape"), -1);
-        is("24 edits go on", Due.goes(x, "q"), 3);
+        is("24 the tape's bytes", x.edit(false), 3);
+        DUE.isText("24 COMING", Due.all(x, true), "abc b q tape");
+        is("24 edits go on", Due.goes(x, "tape"), 4);
+        is("24 edits go on", Due.goes(x, "q"), 5);
         is("24 merge()", x.merge(), 2 + 4);
         is("24 the image stays", x.again(1), true);
         DUE.isText("24 COMING", Due.all(x, true), "abc b q");
