@@ -241,10 +241,11 @@ public final class TurnedWords {
         if (!now.dictionary.hasNumber(word) || what < 0 || what > 2) {
             return NONE;
         }
+        long row = now.dictionary.at(word);
         for (int signs = 1; signs <= MOST_SIGNS; signs++) {
-            int turn = index.firstAlone(word, signs);
-            if (turn != NONE) {
-                return what == 0 ? signs : what == 1 ? index.numberAt(turn) : turn;
+            int k = index.firstAlone(row, signs);
+            if (k != NONE) {
+                return what == 0 ? signs : what == 1 ? k : index.placeOf(row, k);
             }
         }
         return NOT_SO;
@@ -919,13 +920,22 @@ public final class TurnedWords {
             return words;
         }
 
-        /** The first turn of a word whose first signs, so many, begin no turn of another word. */
-        int firstAlone(int word, int signs) {
-            for (int turn = 0; turn < turns.size(); turn++) {
-                long row = signsAt(turn);
-                if (wordAt(turn) == word && Row.length(row) >= signs
-                        && wordsThatTurnTo(Row.head(row, signs), signs) == Bits.bit(word)) {
-                    return turn;
+        /** Where turn k of a word of the dictionary stands. */
+        int placeOf(long word, int k) {
+            return from(Row.turned(word, k));
+        }
+
+        /** The least k of a word's turns whose first signs, so many, begin no other word's turn. */
+        int firstAlone(long word, int signs) {
+            int length = Row.length(word);
+            if (signs > length + 1) {
+                return NONE;
+            }
+            for (int k = 0; k <= length; k++) {
+                long head = Row.head(Row.turned(word, k), signs);
+                // one of them is the word's own
+                if (Long.bitCount(wordsThatTurnTo(head, signs)) == 1) {
+                    return k;
                 }
             }
             return NONE;

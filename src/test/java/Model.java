@@ -411,13 +411,11 @@ final class Model {
         if (word == null || what < 0 || what > 2) {
             return -1;
         }
-        List<String> index = index();
         for (int signs = 1; signs <= 8; signs++) {
-            for (String turn : index) {
-                if (wordOf(turn).equals(word) && turn.length() >= signs
-                        && wordsOf(turn.substring(0, signs)).size() == 1) {
-                    return what == 0 ? signs : what == 2 ? index.indexOf(turn)
-                            : turn.length() - 1 - turn.indexOf('$');
+            for (int k = 0; k <= word.length() && signs <= word.length() + 1; k++) {
+                String turn = turned(word, k);
+                if (wordsOf(turn.substring(0, signs)).size() == 1) {
+                    return what == 0 ? signs : what == 1 ? k : index().indexOf(turn);
                 }
             }
         }

@@ -676,11 +676,37 @@ public final class PromisesTest {
         Due.words(x, "a ab ba");
         aloneIs(x, 0, -2, -2, -2);
         is("18 another what ahead of it", x.alone(0, 3), -1);
+        aloneFirstByNumber();
+    }
+
+    /** Of several TURNS that of the least k, wherever in the INDEX it is. */
+    private static void aloneFirstByNumber() {
+        TurnedWords x = Due.with("j");
+        // $j j$
+        aloneIs(x, 0, 1, 0, 1);
         Due.words(x, "ba");
-        // by the number in the INDEX: $ba is ahead of a$b and ba$
-        aloneIs(x, 0, 1, 2, 0);
+        // $ba a$b ba$
+        aloneIs(x, 0, 1, 0, 2);
         Due.words(x, "aaa b");
-        aloneIs(x, 0, 1, 2, 2);
+        // $aaa $b a$aa aa$a aaa$ b$
+        aloneIs(x, 0, 1, 0, 4);
+        aloneIs(x, 1, 1, 0, 5);
+        Due.words(x, "gfedcba");
+        aloneIs(x, 0, 1, 0, 7);
+        Due.words(x, "xba xz");
+        // $xba $xz a$xb ba$x xba$ xz$ z$x: k 0 needs two SIGNS, k 1 and 2 one
+        aloneIs(x, 0, 1, 1, 3);
+        aloneIs(x, 1, 1, 1, 6);
+        Due.words(x, "cab dab");
+        // $cab $dab ab$c ab$d b$ca b$da cab$ dab$
+        aloneIs(x, 0, 1, 0, 6);
+        Due.comes(x, "ca");
+        x.merge();
+        // $ca $cab $dab a$c ab$c ab$d b$ca b$da ca$ cab$ dab$: ca by a$, cab by itself
+        aloneIs(x, 0, 2, 1, 3);
+        aloneIs(x, 1, 3, 0, 9);
+        x.undo();
+        aloneIs(x, 1, 1, 0, 7);
     }
 
     private static void near() {
