@@ -183,14 +183,7 @@ public final class PromisesTest {
         is("6 fault(1)", x.fault(1), -1);
         is("5 the tape is empty", x.count(14), 0);
         is("5 count(6)", x.count(6), pieces);
-        StringBuilder got = new StringBuilder();
-        for (int run = 0; run < x.count(7); run++) {
-            got.append(run == 0 ? "" : " ").append(x.run(run, 1));
-            for (int i = 0; i < x.run(run, 0); i++) {
-                got.append((char) x.run(run, 5 + i));
-            }
-        }
-        DUE.isText("5 RUNS of " + text, got.toString(), runs);
+        DUE.isText("5 RUNS of " + text, Due.runs(x), runs);
     }
 
     private static void pattern() {
@@ -522,12 +515,8 @@ public final class PromisesTest {
         TurnedWords x = Due.with("ab b ba");
         String[] due = {"$ab02", "$b11", "$ba22", "a$b21", "ab$00", "b$10", "b$a01", "ba$20"};
         for (int turn = 0; turn < due.length; turn++) {
-            StringBuilder got = new StringBuilder();
-            for (int i = 0; x.turn(turn, 2 + i) != -1 && i < 9; i++) {
-                got.append((char) x.turn(turn, 2 + i));
-            }
-            got.append(x.turn(turn, 0)).append(x.turn(turn, 1));
-            DUE.isText("14 TURN " + turn, got.toString(), due[turn]);
+            String got = Due.turn(x, turn) + x.turn(turn, 0) + x.turn(turn, 1);
+            DUE.isText("14 TURN " + turn, got, due[turn]);
         }
         is("14 no such TURN", x.turn(8, 0), -1);
         is("14 turn(-1)", x.turn(-1, 0), -1);
