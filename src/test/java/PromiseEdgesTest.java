@@ -33,6 +33,7 @@ public final class PromiseEdgesTest {
         beginAlone();
         anotherCount();
         word();
+        farBeyond();
         answer();
         turn();
         emptyRange();
@@ -584,6 +585,24 @@ public final class PromiseEdgesTest {
         is("than of WORDS", x.word(1, false, 0), 1);
     }
 
+    private static void farBeyond() {
+        DUE.about("12, 14, 15, NONE: there is none such, far beyond");
+        TurnedWords x = Due.with("zzzzzzz");
+        Due.pattern(x, "zzzzzzz");
+        for (int what = 11; what < 150; what++) {
+            is("word(0, false, " + what + ")", x.word(0, false, what), -1);
+            is("turn(0, " + what + ")", x.turn(0, what), -1);
+            is("run(0, " + (what + 2) + ")", x.run(0, what + 2), -1);
+        }
+        TurnedWords y = Due.with("zzzzzzz");
+        Due.pattern(y, "zzzzzzz");
+        for (int what = -150; what < 0; what++) {
+            is("word(0, false, " + what + ")", y.word(0, false, what), -1);
+            is("turn(0, " + what + ")", y.turn(0, what), -1);
+            is("run(0, " + what + ")", y.run(0, what), -1);
+        }
+    }
+
     private static void answer() {
         DUE.about("13, NONE: not so many");
         TurnedWords x = Due.with("ab b bb");
@@ -665,6 +684,21 @@ public final class PromiseEdgesTest {
         is("nine SIGNS", y.run(0, 2), -1);
         Due.pattern(y, "*abcdefgh*");
         is("eight letters", y.run(1, 2), -1);
+        String[] behind = {"a", "ab", "abc", "abcd"};
+        for (String more : behind) {
+            // the RUN is all of a TURN and letters more
+            Due.pattern(y, more + "*abcdefg");
+            is("run(0, 0) of abcdefg$" + more, y.run(0, 0), 8 + more.length());
+            is("run(0, 2) of abcdefg$" + more, y.run(0, 2), -1);
+            is("run(0, 3) of abcdefg$" + more, y.run(0, 3), 0);
+            is("run(0, 4) of abcdefg$" + more, y.run(0, 4), 0);
+        }
+        String twelve = "abcdefgabcde";
+        for (int signs = 8; signs <= 12; signs++) {
+            Due.pattern(y, twelve.substring(0, signs));
+            is("run(0, 2) of more than eight", y.run(0, 2), -1);
+            is("run(0, 3) of more than eight", y.run(0, 3), 0);
+        }
     }
 
     private static void run() {
