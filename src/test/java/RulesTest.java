@@ -6,7 +6,6 @@ import java.lang.reflect.Modifier;
 import java.nio.file.Files;
 import java.nio.file.Path;
 import java.util.Arrays;
-import java.util.List;
 import java.util.TreeSet;
 import java.util.regex.Matcher;
 import java.util.regex.Pattern;
@@ -15,14 +14,8 @@ import java.util.regex.Pattern;
 public final class RulesTest {
     private static final Due DUE = new Due("RulesTest");
     private static final String SOURCE = "src/main/java/TurnedWords.java";
-    private static final List<String> FACE = List.of(
-            "int feed(int, int, int, int, int)", "int end(int)", "int words()", "int pattern()",
-            "int fault(int)", "int edit(boolean)", "int cancel()", "int merge()", "int undo()",
-            "int count(int)", "int word(int, boolean, int)", "int answer(int, boolean)",
-            "int turn(int, int)", "int run(int, int)", "int of(int, int)", "int shared(int)",
-            "int alone(int, int)", "int near(int, int)", "int tally(int, boolean)",
-            "int places(int, int)", "int instead(int, int)", "boolean image(int)",
-            "boolean again(int)");
+    private static final String DOCUMENT = "../shared/DOC.md";
+    private static final TreeSet<String> FACE = new TreeSet<>();
     private static final String[] FORBIDDEN = {
         "\\b(throw|throws|try|catch|finally|synchronized|assert|native|volatile|transient)\\b",
         "->", "::", "\\bimport\\b", "\\bpackage\\b", "\\bstatic\\s*\\{", "@\\w+",
@@ -35,7 +28,9 @@ public final class RulesTest {
 
     public static void main(String[] args) throws IOException {
         String code = withoutComments(Files.readString(Path.of(SOURCE)));
+        readFace(Files.readString(Path.of(DOCUMENT)));
         face();
+        none();
         nested();
         words(code);
         parameters(code);
@@ -46,6 +41,16 @@ public final class RulesTest {
 
     private static String withoutComments(String source) {
         return source.replaceAll("(?s)/\\*.*?\\*/", "").replaceAll("//[^\n]*", "");
+    }
+
+    /** The methods of the document's code block, by their types. */
+    private static void readFace(String document) {
+        Matcher methods = Pattern.compile("\n    public (\\w+) (\\w+)\\(([^)]*)\\);").matcher(document);
+        while (methods.find()) {
+            String types = methods.group(3).replaceAll("(\\w+) \\w+", "$1");
+            FACE.add(methods.group(1) + " " + methods.group(2) + "(" + types + ")");
+        }
+        DUE.is("methods of the document", FACE.size(), 23);
     }
 
     private static String signature(Method method) {
@@ -67,7 +72,7 @@ public final class RulesTest {
                 DUE.is(method + "", method.getModifiers(), Modifier.PUBLIC);
             }
         }
-        DUE.isText("the face", seen.toString(), new TreeSet<>(FACE).toString());
+        DUE.isText("the face", seen.toString(), FACE.toString());
         for (Method method : face.getDeclaredMethods()) {
             boolean isPrivate = Modifier.isPrivate(method.getModifiers());
             DUE.is(method + "", isPrivate && names.contains(method.getName()), false);
@@ -82,6 +87,15 @@ public final class RulesTest {
             boolean mayStay = !Modifier.isStatic(field.getModifiers());
             DUE.is(field + " is final", mayStay || Modifier.isFinal(field.getModifiers()), true);
         }
+    }
+
+    private static void none() {
+        for (Field field : TurnedWords.class.getFields()) {
+            DUE.isText("a constant", field.toGenericString(),
+                    "public static final int TurnedWords.NONE");
+        }
+        DUE.is("constants", TurnedWords.class.getFields().length, 1);
+        DUE.is("NONE", TurnedWords.NONE, -1);
     }
 
     private static void nested() {
